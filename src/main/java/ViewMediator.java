@@ -387,18 +387,30 @@ public final class ViewMediator {
         }
     }
 
+    /** What terms become; the terms below a bound stay what they are, the others become nothing at first. */
+    private static final class Images {
+        final int[] of = new int[UNFOLDED_TERMS];
+
+        Images(int fixed) {
+            for (int term = 0; term < UNFOLDED_TERMS; term++) {
+                of[term] = term < fixed ? term : NONE;
+            }
+        }
+
+        boolean letBecome(int term, int image) {
+            if (of[term] == NONE) {
+                of[term] = image;
+            }
+            return of[term] == image;
+        }
+    }
+
     /** Finds out whether one list of atoms maps into another. */
     private static final class Mapper {
-        private final int[] images = new int[UNFOLDED_TERMS];
+        private final Images images = new Images(Q + 1);
         private AtomList source;
         private AtomList target;
         private int leftOut;
-
-        Mapper() {
-            for (int term = 0; term < UNFOLDED_TERMS; term++) {
-                images[term] = term <= Q ? term : NONE;
-            }
-        }
 
         /** Whether from maps into the atoms of to but the one at the place without (NONE for all of them). */
         boolean maps(AtomList from, AtomList to, int without) {
@@ -423,20 +435,13 @@ public final class ViewMediator {
         private boolean mapsOnto(int depth, int i) {
             int first = source.firsts[depth];
             int second = source.seconds[depth];
-            int oldFirst = images[first];
-            int oldSecond = images[second];
-            boolean done = becomes(first, target.firsts[i]) && becomes(second, target.seconds[i])
+            int oldFirst = images.of[first];
+            int oldSecond = images.of[second];
+            boolean done = images.letBecome(first, target.firsts[i]) && images.letBecome(second, target.seconds[i])
                     && mapsFrom(depth + 1);
-            images[first] = oldFirst;
-            images[second] = oldSecond;
+            images.of[first] = oldFirst;
+            images.of[second] = oldSecond;
             return done;
-        }
-
-        private boolean becomes(int term, int image) {
-            if (images[term] == NONE) {
-                images[term] = image;
-            }
-            return images[term] == image;
         }
     }
 
@@ -544,8 +549,9 @@ public final class ViewMediator {
 
         /** Whether the number was not there before. */
         boolean add(int number) {
-            boolean isNew = !has(number);
-            words[number >> 6] |= 1L << (number & 63);
+            long bit = 1L << (number & 63);
+            boolean isNew = (words[number >> 6] & bit) == 0;
+            words[number >> 6] |= bit;
             return isNew;
         }
     }
@@ -558,18 +564,12 @@ public final class ViewMediator {
         int tryCount;
         private final Marks found = new Marks(VALUES * VALUES);
         private final Marks made = new Marks(RELATIONS * PATTERNS * VALUES * VALUES);
-        private final int[] given = new int[UNFOLDED_TERMS];
+        private final Images values = new Images(VALUES);
         private final int[] lastUse = new int[UNFOLDED_TERMS];
         private Relation[] relations;
         private Disjunct disjunct;
         private int goal;
         private int freshRequests;
-
-        Asker() {
-            for (int term = 0; term < UNFOLDED_TERMS; term++) {
-                given[term] = term < VALUES ? term : NONE;
-            }
-        }
 
         void begin() {
             resultCount = 0;
@@ -660,14 +660,14 @@ public final class ViewMediator {
             }
             int first = disjunct.atoms.firsts[depth];
             int second = disjunct.atoms.seconds[depth];
-            int oldFirst = given[first];
-            int oldSecond = given[second];
+            int oldFirst = values.of[first];
+            int oldSecond = values.of[second];
             boolean firstMatters = oldFirst == NONE && lastUse[first] > depth;
             boolean secondMatters = oldSecond == NONE && lastUse[second] > depth;
             Relation relation = relations[disjunct.atoms.heads[depth]];
             int seen = 0;
             for (int i = 0; i < relation.rowCount; i++) {
-                if (becomes(first, relation.xs[i]) && becomes(second, relation.ys[i])) {
+                if (values.letBecome(first, relation.xs[i]) && values.letBecome(second, relation.ys[i])) {
                     // Roads that differ only in what is not used later lead to the same end: one is enough.
                     int mark = 1 << (firstMatters ? relation.xs[i] : secondMatters ? relation.ys[i] : 0);
                     if (firstMatters && secondMatters || (seen & mark) == 0) {
@@ -675,21 +675,14 @@ public final class ViewMediator {
                     }
                     seen |= mark;
                 }
-                given[first] = oldFirst;
-                given[second] = oldSecond;
+                values.of[first] = oldFirst;
+                values.of[second] = oldSecond;
             }
-        }
-
-        private boolean becomes(int term, int value) {
-            if (given[term] == NONE) {
-                given[term] = value;
-            }
-            return given[term] == value;
         }
 
         private void arrive() {
             if (goal >= disjunct.atoms.length) {
-                found.add(given[P] * VALUES + given[Q]);
+                found.add(values.of[P] * VALUES + values.of[Q]);
             } else if (made.add(requestCode())) {
                 freshRequests++;
             }
@@ -698,8 +691,8 @@ public final class ViewMediator {
         private int requestCode() {
             AtomList atoms = disjunct.atoms;
             int pattern = disjunct.patterns[goal];
-            int x = (pattern & WANTS_FIRST) != 0 ? given[atoms.firsts[goal]] : 0;
-            int y = (pattern & WANTS_SECOND) != 0 ? given[atoms.seconds[goal]] : 0;
+            int x = (pattern & WANTS_FIRST) != 0 ? values.of[atoms.firsts[goal]] : 0;
+            int y = (pattern & WANTS_SECOND) != 0 ? values.of[atoms.seconds[goal]] : 0;
             return ((atoms.heads[goal] * PATTERNS + pattern) * VALUES + x) * VALUES + y;
         }
     }

@@ -160,8 +160,9 @@ final class RelationsTest {
     }
 
     private static void allowSetsPatterns() {
-        ViewMediator m = new ViewMediator();
         for (int patterns = 15; patterns >= 0; patterns--) {
+            ViewMediator m = new ViewMediator();
+            m.allow(0, 15 - patterns);
             checks.due("allow", m.allow(0, patterns), true);
             checks.due("both known, " + patterns, patternOf(m, 16, 17), greatest(patterns, 0, 1, 2, 3));
             checks.due("value known, " + patterns, patternOf(m, 5, 0), greatest(patterns, 0, 1, 2, 3));
