@@ -79,8 +79,8 @@ final class AskingEdgesTest {
         }
     }
 
-    // ASKING: "An atom has for every road a REQUEST"; "If an atom has requests that must be made": if not, failures don't
-    // matter.
+    // ASKING: "An atom has for every road a REQUEST"; "If an atom has requests that must be made": if not, failures
+    // don't matter.
 
     private static void noRoadNoRequest() {
         for (int p = 0; p < 4; p++) {
@@ -168,8 +168,8 @@ final class AskingEdgesTest {
         }
     }
 
-    // ASKING: "Requests that are the same are one, and a request that was made before in the same run, for whatever atom,
-    // is not made again."
+    // ASKING: "Requests that are the same are one, and a request that was made before in the same run, for whatever
+    // atom, is not made again."
 
     private static void sameRequestsAreOne() {
         ViewMediator m = Setups.open();
@@ -267,8 +267,8 @@ final class AskingEdgesTest {
     }
 
     // ASKING: "with 3 failures or more of the relation, these become 3 fewer, 3 tries are made, and the run ends as
-    // SILENT; otherwise as many tries are made as there are requests to be made and failures together, the failures become
-    // 0, and these requests are made."
+    // SILENT; otherwise as many tries are made as there are requests to be made and failures together, the failures
+    // become 0, and these requests are made."
 
     private static void twoFailuresAndThree() {
         for (int n = 0; n <= 9; n++) {

@@ -8,7 +8,8 @@ final class CallEdgesTest {
 
     public static void main(String[] args) {
         lastCallIsAnswered();
-        lastCallChangesWhatItShould();
+        callsBeforeTheLastCount();
+        clearBeforeTheLastCounts();
         allCallsAreRuns();
         allCallsAreRefused();
         allCallsAreChanges();
@@ -67,7 +68,7 @@ final class CallEdgesTest {
         lastDue("tries", ViewMediator::tries, 9);
     }
 
-    private static void lastCallChangesWhatItShould() {
+    private static void callsBeforeTheLastCount() {
         ViewMediator m = Setups.open();
         Setups.rule(m, 0, 0, 16, 17);
         Setups.query(m, 0, 16, 17);
@@ -77,6 +78,15 @@ final class CallEdgesTest {
         checks.due("510th: fact", m.fact(0, 0, 1), true);
         checks.due("511th: run", m.run(), 2);
         checks.due("512th: result", m.result(1), 255);
+    }
+
+    private static void clearBeforeTheLastCounts() {
+        ViewMediator m = Standing.make();
+        for (int calls = Standing.CALLS; calls < MOST - 2; calls++) {
+            m.failures(0);
+        }
+        m.clear();
+        checks.due("512th: run after clear", m.run(), ViewMediator.BAD);
     }
 
     private static void allCallsAreRuns() {

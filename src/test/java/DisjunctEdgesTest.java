@@ -1,4 +1,4 @@
-/** The boundary cases of promises 14 to 17, each sentence or part of a sentence of the document in a test of its own. */
+/** The boundary cases of promises 14 to 17, each sentence or part of a sentence in a test of its own. */
 final class DisjunctEdgesTest {
     private static final Checks checks = new Checks();
 
@@ -210,6 +210,12 @@ final class DisjunctEdgesTest {
                 checks.due("atomAt(" + i + ", " + i + ")", m.atomAt(i, i), -1);
             }
         }
+        for (int d = 0; d < 8; d++) {
+            ViewMediator m = withDisjuncts(8);
+            for (int i : Outside.of(2)) {
+                checks.due("atomAt(" + d + ", " + i + ") of eight disjuncts", m.atomAt(d, i), -1);
+            }
+        }
         // Disjunct 0 has three atoms, disjunct 1 two: each has its own bound.
         Standing.changesNothing(checks, "atomAt(0, 2)", m -> m.atomAt(0, 2), (64 + 18) * 64 + 17);
         Standing.changesNothing(checks, "atomAt(1, 1)", m -> m.atomAt(1, 1), (64 + 18) * 64 + 17);
@@ -259,6 +265,12 @@ final class DisjunctEdgesTest {
                 checks.due("patternAt(" + i + ", " + i + ")", m.patternAt(i, i), -1);
             }
         }
+        for (int d = 0; d < 8; d++) {
+            ViewMediator m = withDisjuncts(8);
+            for (int i : Outside.of(2)) {
+                checks.due("patternAt(" + d + ", " + i + ") of eight disjuncts", m.patternAt(d, i), -1);
+            }
+        }
         Standing.changesNothing(checks, "patternAt(0, 2)", m -> m.patternAt(0, 2), 1);
         Standing.changesNothing(checks, "patternAt(1, 1)", m -> m.patternAt(1, 1), 1);
         Standing.changesNothing(checks, "patternAt(1, 2)", m -> m.patternAt(1, 2), -1);
@@ -267,7 +279,8 @@ final class DisjunctEdgesTest {
         }
     }
 
-    /** Promise 16: "of one that is blocked: those that were put in order, then the others as the disjunct lists them" */
+    // Promise 16: "of one that is blocked: those that were put in order, then the others as the disjunct lists them"
+
     private static void blockedAtomsHaveNoPattern() {
         ViewMediator m = withAtoms(6);
         m.allow(0, 0);

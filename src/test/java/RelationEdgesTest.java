@@ -1,6 +1,6 @@
 import java.util.List;
 
-/** The boundary cases of promises 1 to 6, each sentence or part of a sentence of the document in a test of its own. */
+/** The boundary cases of promises 1 to 6, each sentence or part of a sentence in a test of its own. */
 final class RelationEdgesTest {
     private static final int[] NO_RELATION = Outside.of(3);
     private static final int[] NO_VALUE = Outside.of(15);
@@ -106,7 +106,8 @@ final class RelationEdgesTest {
         checks.due("new: patternAt(0, 0)", m.patternAt(0, 0), -1);
     }
 
-    // Promise 2: "true; false, changing nothing, when relation, x or y is out of range, the row is there, or 8 are there."
+    // Promise 2: "true; false, changing nothing, when relation, x or y is out of range, the row is there, or 8 are
+    // there."
 
     private static void factTakesAllThatIsInRange() {
         for (int i = 0; i < 4 * 256; i++) {
@@ -207,6 +208,7 @@ final class RelationEdgesTest {
         for (int value : NO_VALUE) {
             Standing.changesNothing(checks, "retract(1, " + value + ", 0)", m -> m.retract(1, value, 0), false);
             Standing.changesNothing(checks, "retract(1, 0, " + value + ")", m -> m.retract(1, 0, value), false);
+            Standing.changesNothing(checks, "retract(1, 15, " + value + ")", m -> m.retract(1, 15, value), false);
             Standing.changesNothing(checks, "retract(2, both " + value + ")", m -> m.retract(2, value, value), false);
         }
     }

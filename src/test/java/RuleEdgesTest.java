@@ -1,6 +1,6 @@
 import java.util.List;
 
-/** The boundary cases of promises 7 to 11, each sentence or part of a sentence of the document in a test of its own. */
+/** The boundary cases of promises 7 to 11, each sentence or part of a sentence in a test of its own. */
 final class RuleEdgesTest {
     private static final int[] NO_VIEW = Outside.of(2);
     private static final int[] NO_RELATION = Outside.of(3);
@@ -81,8 +81,8 @@ final class RuleEdgesTest {
         }, "third rule(2), after two without atoms", m -> m.rule(2), -1);
     }
 
-    // Promise 8: "true; false, changing nothing, when view is not 0 .. 2 or has no rule, that rule has 2 atoms, relation
-    // is not 0 .. 3, or a or b is not 0 .. 21."
+    // Promise 8: "true; false, changing nothing, when view is not 0 .. 2 or has no rule, that rule has 2 atoms,
+    // relation is not 0 .. 3, or a or b is not 0 .. 21."
 
     private static void atomTakesAllTerms() {
         for (int a = 0; a <= 21; a++) {

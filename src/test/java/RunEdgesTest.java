@@ -430,8 +430,8 @@ final class RunEdgesTest {
         return m;
     }
 
-    // Promise 13: "The i-th result, counted from 0, by growing p and, where p is the same, growing q: 16 * p + q; -1 when
-    // there is none."
+    // Promise 13: "The i-th result, counted from 0, by growing p and, where p is the same, growing q: 16 * p + q; -1
+    // when there is none."
 
     private static void mostResults() {
         ViewMediator m = withAllPairs();

@@ -8,9 +8,11 @@ import java.util.function.Function;
  */
 final class Standing {
     static final String DUE = """
-            run: 0(16,22):0 0(22,18):1 1(18,17):1 | 0(16,18):0 1(18,17):1 [13, 14, 29, 31, 46, 47] requests 7 tries 9
+            run: 0(16,22):0 0(22,18):1 1(18,17):1 | 0(16,18):0 1(18,17):1
+            results: [13, 14, 29, 31, 46, 47] requests 7 tries 9
             failures: 1 2 0 9
-            run again, 5: 0(16,22):0 0(22,18):0 1(18,17):1 | 0(16,18):0 1(18,17):1 [13, 14, 28, 29, 44] requests 4 tries 7
+            run again, 5: 0(16,22):0 0(22,18):0 1(18,17):1 | 0(16,18):0 1(18,17):1
+            results: [13, 14, 28, 29, 44] requests 4 tries 7
             failures: 0 0 0 9
             relation 0: [1, 18, 35] room 5 patterns 0 2
             relation 1: [15, 30, 45, 60, 195, 210, 225, 240] room 0 patterns 1 2 3
@@ -97,7 +99,7 @@ final class Standing {
 
     private static String latestRun(ViewMediator m) {
         StringBuilder text = new StringBuilder(Setups.shapes(m));
-        text.append(' ').append(Setups.results(m)).append(" requests ").append(m.requests())
+        text.append("\nresults: ").append(Setups.results(m)).append(" requests ").append(m.requests())
                 .append(" tries ").append(m.tries()).append("\nfailures:");
         for (int r = 0; r < 4; r++) {
             text.append(' ').append(m.failures(r));

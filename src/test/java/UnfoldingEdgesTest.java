@@ -63,7 +63,7 @@ final class UnfoldingEdgesTest {
         }
     }
 
-    /** The terms of the first atom with a relation in disjunct 0, the first counting 64 times as much; -1 without it. */
+    /** The terms of the first atom of a relation in disjunct 0, as 64 * first + second; -1 without such an atom. */
     private static int termsOf(ViewMediator m, int relation) {
         for (int i = 0; i < m.size(0); i++) {
             if (m.atomAt(0, i) / 4096 == relation) {
@@ -187,8 +187,8 @@ final class UnfoldingEdgesTest {
         shapesDue("18 becomes 15 here, so also there", m, "0(16,18):0 0(17,18):2 0(16,15):3");
     }
 
-    // REDUCING: "in every disjunct its atoms are gone through from the first to the last; one is taken out if the list as
-    // it stands then maps into that list without it."
+    // REDUCING: "in every disjunct its atoms are gone through from the first to the last; one is taken out if the list
+    // as it stands then maps into that list without it."
 
     private static void oneAtomIsNeverTakenOut() {
         ViewMediator m = Setups.open();
@@ -235,8 +235,8 @@ final class UnfoldingEdgesTest {
         shapesDue("the first of two loops goes, the other has none left", m, "0(16,17):0 1(16,17):3 0(19,19):0");
     }
 
-    // REDUCING: "one is DROPPED if some other one that was not dropped maps into it. Those that are left are numbered 0,
-    // 1, .. in their order."
+    // REDUCING: "one is DROPPED if some other one that was not dropped maps into it. Those that are left are numbered
+    // 0, 1, .. in their order."
 
     private static void lastOfEightDisjunctsIsLeft() {
         ViewMediator m = Setups.open();
@@ -327,8 +327,8 @@ final class UnfoldingEdgesTest {
         shapesDue("known by an atom that comes later in the list", m, "0(16,26):0 1(16,17):1 2(18,17):2 3(18,17):3");
     }
 
-    // ORDER: "Again and again the first atom, in the disjunct's list, that was not put in order and can be asked with some
-    // pattern is put next in order; its pattern is the greatest with which it can be asked."
+    // ORDER: "Again and again the first atom, in the disjunct's list, that was not put in order and can be asked with
+    // some pattern is put next in order; its pattern is the greatest with which it can be asked."
 
     private static void firstThatCanBeAskedComesNext() {
         ViewMediator m = new ViewMediator();
