@@ -1,3 +1,4 @@
+import java.util.function.BiFunction;
 import java.util.function.Consumer;
 import java.util.function.Function;
 
@@ -10,6 +11,8 @@ final class CallEdgesTest {
         lastCallIsAnswered();
         callsBeforeTheLastCount();
         clearBeforeTheLastCounts();
+        allCallsAreTheSame();
+        allCallsButTheLastAreRefused();
         allCallsAreRuns();
         allCallsAreRefused();
         allCallsAreChanges();
@@ -87,6 +90,54 @@ final class CallEdgesTest {
         }
         m.clear();
         checks.due("512th: run after clear", m.run(), ViewMediator.BAD);
+    }
+
+    private static void allCallsAreTheSame() {
+        sameDue("fact", m -> m.fact(0, 15, 15), true, false);
+        sameDue("retract", m -> m.retract(0, 15, 15), false);
+        sameDue("allow", m -> m.allow(3, 15), true);
+        sameDue("fail", m -> m.fail(3, 9), true);
+        sameDue("failures", m -> m.failures(3), 0);
+        sameDue("rule", m -> m.rule(2), 0, 1, -1);
+        sameDue("atom", m -> m.atom(2, 3, 16, 17), false);
+        sameDue("forget", m -> m.forget(2), 0);
+        sameDue("ask", m -> m.ask(2, 16, 17), true, true, true, false);
+        sameDue("run", ViewMediator::run, ViewMediator.BAD);
+        sameDue("result", m -> m.result(0), -1);
+        sameDue("disjuncts", ViewMediator::disjuncts, 0);
+        sameDue("size", m -> m.size(0), -1);
+        sameDue("atomAt", m -> m.atomAt(0, 0), -1);
+        sameDue("patternAt", m -> m.patternAt(0, 0), -1);
+        sameDue("requests", ViewMediator::requests, 0);
+        sameDue("tries", ViewMediator::tries, 0);
+    }
+
+    /** A call, 512 times on a new object: the answers that are due, the last of which is due from then on. */
+    private static void sameDue(String call, Function<ViewMediator, Object> made, Object... wants) {
+        ViewMediator m = new ViewMediator();
+        for (int calls = 0; calls < MOST; calls++) {
+            checks.due(call + " " + calls, made.apply(m), wants[Math.min(calls, wants.length - 1)]);
+        }
+    }
+
+    private static void allCallsButTheLastAreRefused() {
+        lastTaken("fact", (m, relation) -> m.fact(relation, 15, 15), false, true);
+        lastTaken("allow", (m, relation) -> m.allow(relation, 15), false, true);
+        lastTaken("fail", (m, relation) -> m.fail(relation, 9), false, true);
+        lastTaken("failures", (m, relation) -> m.failures(relation), -1, 0);
+        lastTaken("rule", (m, view) -> m.rule(view), -1, 0);
+        lastTaken("forget", (m, view) -> m.forget(view), -1, 0);
+        lastTaken("ask", (m, view) -> m.ask(view, 16, 17), false, true);
+    }
+
+    /** A call with 4, which is neither a relation nor a view, 511 times on a new object, and then with 2. */
+    private static void lastTaken(String call, BiFunction<ViewMediator, Integer, Object> made, Object refused,
+            Object taken) {
+        ViewMediator m = new ViewMediator();
+        for (int calls = 0; calls < MOST - 1; calls++) {
+            checks.due(call + " with 4", made.apply(m, 4), refused);
+        }
+        checks.due("512th: " + call + " with 2", made.apply(m, 2), taken);
     }
 
     private static void allCallsAreRuns() {
