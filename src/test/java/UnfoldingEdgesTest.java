@@ -235,8 +235,9 @@ final class UnfoldingEdgesTest {
         shapesDue("the first of two loops goes, the other has none left", m, "0(16,17):0 1(16,17):3 0(19,19):0");
     }
 
-    // REDUCING: "one is DROPPED if some other one that was not dropped maps into it. Those that are left are numbered
-    // 0, 1, .. in their order."
+    // REDUCING: "Then the disjuncts are gone through from the first to the last; one is DROPPED if some other one that was
+    // not dropped maps into it. Those that are left are numbered 0, 1, .. in their order." So of those that map into one
+    // another each but the last is dropped by a later one, and the last stays, for the others are dropped by then.
 
     private static void lastOfEightDisjunctsIsLeft() {
         ViewMediator m = Setups.open();
